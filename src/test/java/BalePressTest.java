@@ -117,8 +117,9 @@ public final class BalePressTest {
     private static void feed() {
         part = "2 feed";
         BalePress press = new BalePress();
-        yes("the least", press.feed(0L, 0, 1L));
         no("a second below 0", press.feed(-1L, 0, 1L));
+        yes("the least", press.feed(0L, 0, 1L));
+        no("a second below 0 and the one before", press.feed(-1L, 0, 1L));
         no("the least second there is", press.feed(Long.MIN_VALUE, 0, 1L));
         no("a second too late", press.feed(8000000001L, 0, 1L));
         no("the greatest second there is", press.feed(Long.MAX_VALUE, 0, 1L));
@@ -137,6 +138,10 @@ public final class BalePressTest {
         yes("the last second", press.feed(8000000000L, 1, 7L));
         no("a second before the last", press.feed(7999999999L, 1, 7L));
         due("loose of 1", 7, press.count(1));
+
+        BalePress second = new BalePress();
+        yes("first feed", second.feed(5L, 0, 1L));
+        no("second feed, earlier", second.feed(4L, 0, 1L));
 
         BalePress full = new BalePress();
         for (int i = 0; i < 199; i++) {
@@ -247,8 +252,8 @@ public final class BalePressTest {
         dueDouble("by 64", 17.578125, press.size(1, 64.0));
         double pressed = 1 * 0.001 / 3.7;
         dueDouble("of one gram", pressed + pressed * 0.125, press.size(2, 3.7));
-        dueDouble("less than 1", -1.0, press.size(1, 0.9999999));
-        dueDouble("more than 64", -1.0, press.size(1, 64.0000001));
+        dueDouble("less than 1", -1.0, press.size(1, Math.nextDown(1.0)));
+        dueDouble("more than 64", -1.0, press.size(1, Math.nextUp(64.0)));
         dueDouble("zero", -1.0, press.size(1, 0.0));
         dueDouble("negative", -1.0, press.size(1, -8.0));
         dueDouble("NaN", -1.0, press.size(1, Double.NaN));
@@ -260,11 +265,12 @@ public final class BalePressTest {
     private static void row() {
         part = "8 row";
         BalePress press = pressOf(0, 1);
-        no("degrees too low", press.row(-50.1, 1.0));
-        no("degrees too high", press.row(200.1, 1.0));
+        no("degrees too low", press.row(Math.nextDown(-50.0), 1.0));
+        no("degrees too high", press.row(Math.nextUp(200.0), 1.0));
+        no("degrees infinite", press.row(Double.POSITIVE_INFINITY, 1.0));
         no("degrees NaN", press.row(Double.NaN, 1.0));
-        no("heat negative", press.row(0.0, -0.1));
-        no("heat too great", press.row(0.0, 10.1));
+        no("heat negative", press.row(0.0, Math.nextDown(0.0)));
+        no("heat too great", press.row(0.0, Math.nextUp(10.0)));
         no("heat NaN", press.row(0.0, Double.NaN));
         dueDouble("no row yet", 20.0, press.warm(0, 1, 20.0));
         yes("the least", press.row(-50.0, 0.0));
@@ -302,8 +308,8 @@ public final class BalePressTest {
         dueDouble("hours -1", -1000.0, press.warm(0, -1, 0.0));
         dueDouble("hours 101", -1000.0, press.warm(0, 101, 0.0));
         dueDouble("hours far off", -1000.0, press.warm(0, Integer.MAX_VALUE, 0.0));
-        dueDouble("too cold", -1000.0, press.warm(0, 1, -50.1));
-        dueDouble("too warm", -1000.0, press.warm(0, 1, 60.1));
+        dueDouble("too cold", -1000.0, press.warm(0, 1, Math.nextDown(-50.0)));
+        dueDouble("too warm", -1000.0, press.warm(0, 1, Math.nextUp(60.0)));
         dueDouble("NaN", -1000.0, press.warm(0, 1, Double.NaN));
         dueDouble("bale 4", -1000.0, press.warm(4, 1, 0.0));
         dueDouble("bale -1", -1000.0, press.warm(-1, 1, 0.0));
@@ -390,6 +396,13 @@ public final class BalePressTest {
             dueDouble("warmth", warmth, edge.warm(0, 1, warmth - 5.0 - 40.0));
         }
         dueSpell(edge, 1);
+        BalePress below = pressOf(0, 1);
+        below.row(20.0, 10.0);
+        for (double t = 20.0; t < 55.0; t += 5.0) {
+            below.warm(0, 1, t - 40.0);
+        }
+        yes("just below", below.warm(0, 1, 14.999) > 59.999);
+        dueSpell(below, 0);
     }
 
     private static int hotHoursWhenCooling() {
@@ -510,6 +523,13 @@ public final class BalePressTest {
         made(press, 0, 1);
         due("a place is free again", 0, press.put(7, 0));
         due("full again", 3, press.put(made(press, 0, 1), 0));
+
+        BalePress all = pressOf(0, 1);
+        for (int stack = 0; stack < 4; stack++) {
+            all.stack(3, 6);
+        }
+        due("stack 4 of 4", 1, all.put(0, 4));
+        due("stack 3 of 4", 0, all.put(0, 3));
 
         BalePress gone = pressOf(0, 1, 1);
         gone.stack(0, 1);
@@ -672,6 +692,13 @@ public final class BalePressTest {
         due("too many grams", -1, press.load(0, 3));
         due("no grams at all", -1, press.load(1, 3));
         due("no moment at all", -1, press.load(2, 3));
+
+        BalePress once = pressWithSold(1);
+        once.lorry(1000L, 1000L);
+        once.lorry(1000L, 1000L);
+        due("the first time", 0, once.load(1, 0));
+        due("a second time", -1, once.load(1, 0));
+        due("onto the other", -1, once.load(0, 0));
 
         BalePress edges = pressWithSold(100, 50, 51, 49);
         edges.lorry(150L, 200L);
@@ -876,5 +903,10 @@ public final class BalePressTest {
         due("-1", -1, press.state(-1));
         due("12", -1, press.state(12));
         due("far off", -1, press.state(Integer.MAX_VALUE));
+        BalePress full = pressOf(0, 1);
+        for (int bale = 1; bale < 12; bale++) {
+            due("bale", bale, made(full, 0, 1));
+        }
+        due("state of 12 of 12", -1, full.state(12));
     }
 }
