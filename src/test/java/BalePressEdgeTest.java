@@ -79,7 +79,9 @@ public final class BalePressEdgeTest {
         origins();
         labels();
         states();
-        System.out.println(wrong == 0 ? "every boundary holds, by " + asked + " calls" : wrong + " boundaries are wrong");
+        System.out.println(wrong == 0
+                ? "every boundary holds, by " + asked + " calls"
+                : wrong + " boundaries are wrong");
         if (wrong != 0) {
             System.exit(1);
         }
@@ -477,6 +479,8 @@ public final class BalePressEdgeTest {
         refused("behind the last", NEW, 0, p -> bit(p.feed(LAST + 1L, 0, 1L)));
         refused("the greatest long", NEW, 0, p -> bit(p.feed(Long.MAX_VALUE, 0, 1L)));
         taken("30 by int's wrap-around", RICH, 1, p -> bit(p.feed(4294967326L, 0, 1L)));
+        refused("less than the only one before", () -> fedAt(10L), 0, p -> bit(p.feed(9L, 0, 1L)));
+        taken("as the only one before", () -> fedAt(10L), 1, p -> bit(p.feed(10L, 0, 1L)));
         refused("less than before", RICH, 0, p -> bit(p.feed(29L, 0, 1L)));
         taken("as before", RICH, 1, p -> bit(p.feed(30L, 0, 1L)));
         taken("more than before", RICH, 1, p -> bit(p.feed(31L, 0, 1L)));
@@ -501,14 +505,16 @@ public final class BalePressEdgeTest {
             return press;
         };
         refused("less than before, more by int's wrap-around", beyondInt, 0, p -> bit(p.feed(31L, 0, 1L)));
-        Making atLast = () -> {
-            BalePress press = rich();
-            press.feed(LAST, 0, 1L);
-            return press;
-        };
+        Making atLast = () -> fedAt(LAST);
         refused("one less than the last", atLast, 0, p -> bit(p.feed(LAST - 1L, 0, 1L)));
         taken("the last again", atLast, 1, p -> bit(p.feed(LAST, 0, 1L)));
         refused("one more than the last", atLast, 0, p -> bit(p.feed(LAST + 1L, 0, 1L)));
+    }
+
+    private static BalePress fedAt(long second) {
+        BalePress press = new BalePress();
+        press.feed(second, 0, 1L);
+        return press;
     }
 
     private static void feedKindsAndGrams() {
@@ -1378,11 +1384,27 @@ public final class BalePressEdgeTest {
                 }
             }
         }
+        taken("three close stacks, 1000000", BalePressEdgeTest::threeOnStacks, 0, p -> p.put(3, 3));
+        refused("three close stacks, 1000001", BalePressEdgeTest::threeOnStacks, 6, p -> p.put(4, 3));
+        taken("two close stacks and one that is not", BalePressEdgeTest::threeOnStacks, 0, p -> p.put(4, 1));
         for (int stack = 0; stack < 4; stack++) {
             int same = stack;
             refused("the same, gap 0", () -> twoOnStacks(0, same, same), 6, p -> p.put(1, same));
             taken("the same, gap 0, 1000000", () -> twoOnStacks(0, same, same), 0, p -> p.put(2, same));
         }
+    }
+
+    // Stack 3 is close to all the others; stack 1 is not close to 2.
+    private static BalePress threeOnStacks() {
+        BalePress press = balesOf(200000L, 300000L, 400000L, 100000L, 100001L);
+        press.stack(0, 6);
+        press.stack(1, 6);
+        press.stack(0, 6);
+        press.stack(3, 6);
+        press.put(0, 0);
+        press.put(1, 1);
+        press.put(2, 2);
+        return press;
     }
 
     private static void closeByGap(int gap, int lesser, int greater) {
@@ -1538,8 +1560,8 @@ public final class BalePressEdgeTest {
         refused("100 of 99", () -> lorryOf(99L, 1000L), -1, p -> p.load(0, 0));
         refused("one gram of none", () -> soldAndLorry(1L, 0L, 1000L), -1, p -> p.load(0, 0));
         taken("one gram of one", () -> soldAndLorry(1L, 1L, 1L), 0, p -> p.load(0, 0));
-        refused("the heaviest that can be sold", () -> soldAndLorry(1000000L, 999999L, 1000000L), -1, p -> p.load(0, 0));
-        taken("the heaviest, by its grams", () -> soldAndLorry(1000000L, 1000000L, 1000000L), 0, p -> p.load(0, 0));
+        refused("1000000 of 999999", () -> soldAndLorry(1000000L, 999999L, 1000000L), -1, p -> p.load(0, 0));
+        taken("1000000 of 1000000", () -> soldAndLorry(1000000L, 1000000L, 1000000L), 0, p -> p.load(0, 0));
     }
 
     private static BalePress soldAndLorry(long grams, long most, long moment) {
